@@ -132,6 +132,10 @@ final class PredictionsTest {
         CHECK.noArgument("loaves 21", () -> b.bestWait(0, 21));
         CHECK.is("24 batches", 24, Check.load(b, "bakery 999 3 1;flour 1;bread 1 1 1;buy 0 99 1;rate 9 0;" + "bake 0 1;".repeat(24)));
         CHECK.is("with 24 batches", 9, b.bestWait(0, 1));
+        PennyBakery busy = Check.bakery("bakery 99 5 1;flour 1;bread 1 6 1;buy 0 20 1;bake 0 9 late 5;rate 0 0;");
+        CHECK.is("free in the last cheap minute", 59, busy.freeAt(0));
+        CHECK.is("24 hours are too long", 0, busy.bestWait(0, 10));
+        CHECK.is("the last hour", 23, busy.bestWait(0, 20));
         PennyBakery late = Check.bakery("bakery 99 2 1;flour 1;bread 1 1 1;rate 0 3;rate 1 1;");
         Check.run(late, "wait 999;wait 381;");
         CHECK.is("the hour before midnight", 1380, late.clock());

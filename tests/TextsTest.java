@@ -40,6 +40,12 @@ final class TextsTest {
         CHECK.is("two bytes do not fit, nor one of them", -1, b.feed(0x20, 0, 0x20, 0, 0));
         CHECK.is("still 699", 699, b.feed(0, 0, 0, 0, 0));
         CHECK.is("exactly 700", 700, b.feed(0, 0, 0x200000, 0, 0));
+        for (int word = 0; word < 5; word++) {
+            int[] words = new int[5];
+            words[word] = 0x20202020;
+            CHECK.is("the buffer is full", -1, b.feed(words[0], words[1], words[2], words[3], words[4]));
+        }
+        CHECK.is("still 700", 700, b.feed(0, 0, 0, 0, 0));
         order();
     }
 
@@ -97,6 +103,20 @@ final class TextsTest {
         CHECK.is("setup twice counts anew", 1, Check.load(b, STOCKED + "bake 0 1;"));
         CHECK.is("loaves", 1, b.loavesOf(0));
         CHECK.is("gaps of flours", 0, b.priceGap(0) + b.useGap(0));
+        nothingIsLeftBehind();
+    }
+
+    private static void nothingIsLeftBehind() {
+        String plain = "bakery 700 5 3;flour 10;flour 20;bread 100 3 40;bread 90 1 5;";
+        String fresh = Check.stateOf(Check.bakery(plain));
+        PennyBakery b = Check.bakery("bakery 9999 2 3;flour 7;flour 8;bread 100 3 14;bread 90 1 5;buy 0 99 6;buy 1 99 9;"
+                + "rate 0 7;rate 23 9;bake 0 4 burnt 1 more 2 late 3;bake 1 5 less 2;bake 1 2 early 1;sell 1 2 80;wait 99;");
+        for (int i = 0; i < 3; i++) {
+            CHECK.is("a setup", 0, Check.load(b, plain));
+            CHECK.isText("nothing is left behind", fresh, Check.stateOf(b));
+            Check.run(b, "buy 0 9 8;buy 1 9 30;rate 3 3;bake 0 1;bake 1 1;bake 0 1 less 1;sell 1 1 30;wait 99;");
+            CHECK.is("the script was good", 0, b.errorCode());
+        }
     }
 
     private static void promise4() {
@@ -193,6 +213,15 @@ final class TextsTest {
         script(b, "wait 1/", 1, 6);
         script(b, "wAit 1;", 1, 0);
         script(b, "wait one;", 1, 5);
+        script(b, "waitz 1;", 1, 0);
+        script(b, "awit 1;", 1, 0);
+        script(b, "wait 9z;", 1, 6);
+        script(b, ";".repeat(700), 1, 0);
+        good(b, "wait 1;" + " ".repeat(693), 1);
+        script(b, " ".repeat(699) + "x", 1, 699);
+        script(b, "bake 0 2" + " late 1".repeat(98) + "      ", 1, 700);
+        script(b, "bake 0 2" + "late1".repeat(138) + " ", 1, 699);
+        script(b, "bake0 2" + "9".repeat(693), 2, 6);
         script(b, "flour;", 1, 5);
         script(b, "flour 1 1;", 1, 8);
         script(b, "flour1;bread;", 1, 12);
