@@ -563,6 +563,10 @@ final class CallEdgesTest {
         CHECK.is("nine minutes of hours 2 and 3 from 175 on", 0, b.bestWait(0, 1));
         b.waitMinutes(60);
         CHECK.is("the same a day later, from 235 on", 23, b.bestWait(0, 1));
+        PennyBakery busy = Check.bakery("bakery 9 9 1;flour 1;bread 1 9 1;rate 0 0;bake 0 7 less 7 early 4;");
+        CHECK.is("busy but for the last minute of the cheap hour", 59, busy.freeAt(0));
+        CHECK.is("24 hours would be cheaper, but 23 are the most", 0, busy.bestWait(0, 6));
+        CHECK.is("three hours with the cheap one at their end", 22, busy.bestWait(0, 20));
         PennyBakery full = Check.bakery("bakery 9 9 1;" + ONE + "rate 1 1;" + "bake 0 1 less 1;".repeat(24));
         CHECK.is("with 24 batches", 1, full.bestWait(0, 20));
     }
@@ -616,6 +620,12 @@ final class CallEdgesTest {
         CHECK.is("after restore", 0, b.consistencyError());
         PennyBakery poor = Check.bakery("bakery 0 20 1;flour 99;bread 999 9 9;bake 0 1 less 9 late 9 burnt 1;bake 0 1 less 9;sell 0 1 1;");
         CHECK.is("cash less than 0", 0, poor.consistencyError());
+        PennyBakery sold = Check.bakery("bakery 99 1 1;flour 2;bread 9 1 1;bread 8 1 2;buy 0 9 2;bake 0 3;bake 1 3;");
+        for (int i = 1; i <= 3; i++) {
+            sold.sell(0, 1, 10);
+            sold.sell(1, 1, i);
+            CHECK.is("after sale " + i, 0, sold.consistencyError());
+        }
     }
 
     /** meanLoss: "0.0 without batches" */

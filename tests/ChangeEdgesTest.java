@@ -35,6 +35,7 @@ final class ChangeEdgesTest {
         savedAgain();
         restoreLeavesNoChange();
         savedStatesAreCopies();
+        mainFlourComesBack();
         longestOutput();
         leftOutOfTheOutput();
         outputIsReplaced();
@@ -491,6 +492,24 @@ final class ChangeEdgesTest {
             b.undo();
             CHECK.isText("the second", after, Check.stateOf(b));
         }
+    }
+
+    /** The main flour of a bread comes back with it. */
+    private static void mainFlourComesBack() {
+        PennyBakery b = Check.bakery("bakery 999 0 1;flour 1;flour 1;buy 0 50 1;buy 1 50 1;");
+        b.addBread(1, 1, 20);
+        b.save(0);
+        b.undo();
+        b.addBread(1, 1, 11);
+        b.save(1);
+        b.restore(0);
+        b.bake(0, 1, 0, 1, 0);
+        CHECK.is("flour 1", 1, b.useGap(1));
+        CHECK.is("not flour 0", 0, b.useGap(0));
+        b.restore(1);
+        b.bake(0, 1, 0, 1, 0);
+        CHECK.is("flour 0", 1, b.useGap(0));
+        CHECK.is("not flour 1", 0, b.useGap(1));
     }
 
     /** writeBatch: "the gap in decimal digits, with a minus sign .. if it is less than 0, with one space .. between two of them" */

@@ -78,6 +78,12 @@ final class TextEdgesTest {
             CHECK.is("it is kept", -1, b.runScript());
             CHECK.is("behind 19 blanks", 19, b.errorPosition());
         }
+        for (int value = 1; value <= 255; value++) {
+            PennyBakery b = new PennyBakery();
+            for (int place = 0; place < 20; place++) {
+                CHECK.is("byte " + value + " at " + place, place + 1, feedAt(b, new int[5], place, value));
+            }
+        }
         PennyBakery b = new PennyBakery();
         CHECK.is("no byte", 0, b.feed(0, 0, 0, 0, 0));
         CHECK.is("zeros inside of a word", 4, b.feed(0x77006100, 0x00690000, 0x00007400, 0, 0));
@@ -267,8 +273,12 @@ final class TextEdgesTest {
             setup(new PennyBakery(), text + "\n\n ", 1, text.length() + 3);
         }
         PennyBakery b = Check.bakery(STOCKED);
-        String full = "wait 1;" + " ".repeat(689) + "wait";
-        bad(b, full, 1, 700);
+        bad(b, "wait 1;" + " ".repeat(689) + "wait", 1, 700);
+        bad(b, "bake 0 1 " + "more1".repeat(138) + " ", 1, 700);
+        bad(b, ";".repeat(700), 1, 0);
+        bad(b, ";".repeat(699) + "1", 1, 0);
+        bad(b, "#".repeat(700), 1, 0);
+        good(b, "bake 0 1 " + "more1".repeat(138) + ";", 1);
     }
 
     /** "the grammar does not allow the token at this place" */
@@ -391,7 +401,8 @@ final class TextEdgesTest {
             bad(b, "buy " + count + " 1 1;", 2, 4);
             bad(b, "bake " + count + " 1;", 2, 5);
             bad(b, "sell " + count + " 1 1;", 2, 5);
-            good(b, "bake " + last + " 1 less 1;sell " + last + " 1 1;", 2);
+            good(b, "wait 7;bake " + last + " 1 less 1;", 2);
+            good(b, "wait 7;sell " + last + " 1 1;", 2);
         }
         bad(b, "buy 6 1 1;", 2, 4);
         bad(b, "bake 4294967296 1;", 2, 5);
@@ -658,6 +669,22 @@ final class TextEdgesTest {
         b.waitMinutes(1);
         CHECK.is("changes count from here", 0, b.undo());
         CHECK.is("clock", 0, b.clock());
+        usedBakeries();
+    }
+
+    /** The same for setups with commands, one after the other on one object: each makes a bakery that never was another. */
+    private static void usedBakeries() {
+        String rich = "bakery 9999 3 3;flour 7;flour 8;flour 9;bread 99 3 14;bread 90 1 5;bread 80 2 300;buy 0 50 6;buy 1 50 9;buy 2 50 1;"
+                + "rate 0 7;bake 0 4 burnt 1 more 2 late 3;bake 1 5 less 2;bake 2 2 early 1;sell 1 2 80;sell 2 1 90;wait 99;";
+        String plain = "bakery 700 5 2;flour 10;flour 20;flour 30;bread 98 4 40;bread 91 1 500;bread 71 1 7;";
+        String stocked = plain + "buy 0 9 9;buy 1 9 19;buy 2 9 29;bake 0 1 more 1;bake 1 1 less 1;bake 2 1 more 1;";
+        PennyBakery b = new PennyBakery();
+        for (int round = 0; round < 2; round++) {
+            for (String text : new String[] {rich, plain, rich, stocked, plain, stocked}) {
+                loaded(b, text, text.equals(plain) ? 0 : 3);
+                CHECK.isText("as a new bakery", Check.stateOf(Check.bakery(text)), Check.stateOf(b));
+            }
+        }
     }
 
     /** script = { command ";" }: none is enough for a script, but not for a setup. */
