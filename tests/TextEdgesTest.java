@@ -110,12 +110,22 @@ final class TextEdgesTest {
                 CHECK.is("there is room for one less", 700, feedBytes(exceeds, more - 1));
             }
         }
+        everyByteIsTooMuch();
         PennyBakery b = new PennyBakery();
         fill(b, 693);
         CHECK.is("the last command", 700, Check.feed(b, "wait 7;"));
         CHECK.is("is refused a byte", -1, Check.feed(b, "#"));
         CHECK.is("and executed", 1, b.runScript());
         CHECK.is("clock", 57, b.clock());
+    }
+
+    private static void everyByteIsTooMuch() {
+        PennyBakery b = new PennyBakery();
+        fill(b, 700);
+        for (int value = 1; value <= 255; value++) {
+            CHECK.is("byte " + value + " behind 700", -1, feedAt(b, new int[5], value % 20, value));
+        }
+        CHECK.is("still 700", 700, feedBytes(b, 0));
     }
 
     private static void fill(PennyBakery b, int length) {
