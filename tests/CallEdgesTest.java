@@ -247,8 +247,8 @@ final class CallEdgesTest {
 
     /** batchCount: "0 to 24"; batchBread and so on: "if there is no such batch" */
     private static void numbersOfBatches() {
-        PennyBakery b = Check.bakery("bakery 999 1 1;flour 1;flour 1;bread 1 1 1;bread 2 2 10;buy 0 99 1;buy 1 99 1;");
         for (int batches = 0; batches <= 24; batches++) {
+            PennyBakery b = bakeryWithBatches(batches);
             CHECK.is("batches", batches, b.batchCount());
             noBatch(b, -1);
             noBatch(b, batches);
@@ -260,12 +260,18 @@ final class CallEdgesTest {
                 CHECK.is("good loaves", 3 - last % 4, b.goodLoaves(last));
                 CHECK.is("cost", 6 + last % 2 * 3, b.costOf(last));
             }
-            if (batches < 24) {
-                b.bake(batches % 2, 3, batches % 4, 0, 0);
-            }
         }
-        CHECK.is("the first batch stays", 0, b.startOf(0));
-        CHECK.is("the last one", 12 * 3 + 11 * 6, b.startOf(23));
+        PennyBakery full = bakeryWithBatches(24);
+        CHECK.is("the first batch stays", 0, full.startOf(0));
+        CHECK.is("the last one", 12 * 3 + 11 * 6, full.startOf(23));
+    }
+
+    private static PennyBakery bakeryWithBatches(int batches) {
+        PennyBakery b = Check.bakery("bakery 999 1 1;flour 1;flour 1;bread 1 1 1;bread 2 2 10;buy 0 99 1;buy 1 99 1;");
+        for (int batch = 0; batch < batches; batch++) {
+            b.bake(batch % 2, 3, batch % 4, 0, 0);
+        }
+        return b;
     }
 
     private static void noBatch(PennyBakery b, int batch) {
@@ -664,6 +670,10 @@ final class CallEdgesTest {
 
     /** "predictions; nothing changes", and no other question changes anything */
     private static void questionsChangeNothing() {
+        CHECK.isText("nothing changes", Scene.all(Scene::busy), Scene.all(CallEdgesTest::questioned));
+    }
+
+    private static PennyBakery questioned() {
         PennyBakery b = Scene.busy();
         Check.stateOf(b);
         Check.output(b);
@@ -679,6 +689,6 @@ final class CallEdgesTest {
         for (int place = -1; place <= 5; place++) {
             b.kindAt(0, place);
         }
-        CHECK.isText("nothing changes", Scene.all(Scene.busy()), Scene.all(b));
+        return b;
     }
 }

@@ -99,7 +99,7 @@ final class ChangeEdgesTest {
     /** "even if it alters nothing" */
     private static void changesThatAlterNothing() {
         PennyBakery b = new PennyBakery();
-        String before = Check.stateOf(b);
+        String before = Check.stateOf(new PennyBakery());
         CHECK.is("the rate that it is already", 4, b.setRate(1, 4));
         CHECK.is("a change", 1, b.undoCount());
         CHECK.is("a script without commands", 0, b.runScript());
@@ -111,8 +111,8 @@ final class ChangeEdgesTest {
         CHECK.isText("nothing is altered", before, Check.stateOf(b));
         for (int left = 3; left >= 0; left--) {
             CHECK.is("undone", left, b.undo());
-            CHECK.isText("nothing is altered", before, Check.stateOf(b));
         }
+        CHECK.isText("nothing is altered", before, Check.stateOf(b));
         PennyBakery other = new PennyBakery();
         other.waitMinutes(9);
         for (int i = 0; i < 8; i++) {
@@ -193,18 +193,25 @@ final class ChangeEdgesTest {
         Call[] calls = {b -> b.addFlour(1), b -> b.addBread(1, 1, 1), b -> b.buy(0, 1, 1), b -> b.setRate(0, 1),
             b -> b.bake(0, 1, 1, 1, 1), b -> b.sell(0, 1, 1), b -> b.waitMinutes(1), b -> Check.run(b, "flour 1;wait 9;")};
         for (int first = 0; first < calls.length; first++) {
-            PennyBakery b = new PennyBakery();
-            String[] states = new String[8];
-            for (int i = 0; i < 8; i++) {
-                states[i] = Check.stateOf(b);
-                calls[(first + i) % 8].on(b);
-            }
-            CHECK.is("eight changes", 8, b.undoCount());
-            for (int i = 7; i >= 0; i--) {
-                b.undo();
-                CHECK.isText("undone " + (first + i) % 8, states[i], Check.stateOf(b));
+            for (int left = 0; left < 8; left++) {
+                PennyBakery b = changed(calls, first, 8);
+                CHECK.is("eight changes", 8, b.undoCount());
+                for (int undone = 8; undone > left; undone--) {
+                    b.undo();
+                }
+                String due = Check.stateOf(changed(calls, first, left));
+                CHECK.isText("undone " + (first + left) % 8, due, Check.stateOf(b));
             }
         }
+    }
+
+    /** A new bakery after some of the calls, which follow one another in a ring. */
+    private static PennyBakery changed(Call[] calls, int first, int count) {
+        PennyBakery b = new PennyBakery();
+        for (int i = 0; i < count; i++) {
+            calls[(first + i) % calls.length].on(b);
+        }
+        return b;
     }
 
     /** "everything except the two buffers, the reported error, the saved states and the list of changes" */
@@ -472,25 +479,33 @@ final class ChangeEdgesTest {
 
     /** A saved state does not change with the bakery, nor the bakery with a saved state. */
     private static void savedStatesAreCopies() {
-        PennyBakery b = Check.bakery("bakery 9999 3 2;flour 5;flour 6;bread 9 2 12;bread 9 1 1;buy 0 50 6;buy 1 50 5;bake 0 3 burnt 1 late 1;sell 0 1 8;");
-        String before = Check.stateOf(b);
-        b.save(0);
+        String setup = "bakery 9999 3 2;flour 5;flour 6;bread 9 2 12;bread 9 1 1;buy 0 50 6;buy 1 50 5;bake 0 3 burnt 1 late 1;sell 0 1 8;";
         String script = "flour 9;bread 8 8 111;buy 2 9 9;buy 0 1 1;buy 1 1 1;rate 0 9;rate 23 1;bake 0 2 burnt 2 more 2;bake 1 4;bake 2 3;"
                 + "sell 0 1 1;sell 1 1 9;wait 99;";
-        CHECK.is("a script", 13, Check.run(b, script));
-        String after = Check.stateOf(b);
-        b.save(1);
-        for (int i = 0; i < 2; i++) {
-            b.restore(0);
-            CHECK.isText("the first", before, Check.stateOf(b));
-            Check.run(b, script);
-            CHECK.isText("changed again", after, Check.stateOf(b));
+        Call toTheFirst = b -> b.restore(0);
+        Call scriptAgain = b -> Check.run(b, script);
+        Call toTheSecond = b -> {
             Check.run(b, "wait 5;bake 1 1;");
             b.restore(1);
-            CHECK.isText("the second", after, Check.stateOf(b));
+        };
+        Call changeAndUndo = b -> {
             b.waitMinutes(5);
             b.undo();
-            CHECK.isText("the second", after, Check.stateOf(b));
+        };
+        Call[] steps = {toTheFirst, scriptAgain, toTheSecond, changeAndUndo};
+        String before = Check.stateOf(Check.bakery(setup));
+        PennyBakery ready = Check.bakery(setup);
+        CHECK.is("a script", 13, Check.run(ready, script));
+        String after = Check.stateOf(ready);
+        for (int last = 0; last < 2 * steps.length; last++) {
+            PennyBakery b = Check.bakery(setup);
+            b.save(0);
+            Check.run(b, script);
+            b.save(1);
+            for (int step = 0; step <= last; step++) {
+                steps[step % steps.length].on(b);
+            }
+            CHECK.isText("after step " + last, last % steps.length == 0 ? before : after, Check.stateOf(b));
         }
     }
 

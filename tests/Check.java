@@ -70,11 +70,13 @@ final class Check {
     /** Feeds a whole text, twenty bytes a call, and returns the last answer. */
     static int feed(PennyBakery bakery, String text) {
         byte[] bytes = text.getBytes(StandardCharsets.ISO_8859_1);
-        int answer = bakery.feed(0, 0, 0, 0, 0);
-        for (int at = 0; at < bytes.length; at += 20) {
+        int at = 0;
+        int answer;
+        do {
             answer = bakery.feed(word(bytes, at), word(bytes, at + 4), word(bytes, at + 8),
                     word(bytes, at + 12), word(bytes, at + 16));
-        }
+            at += 20;
+        } while (at < bytes.length);
         return answer;
     }
 
@@ -107,43 +109,65 @@ final class Check {
 
     static String output(PennyBakery bakery) {
         StringBuilder text = new StringBuilder();
-        for (int i = 0; bakery.outputByte(i) != PennyBakery.NONE; i++) {
-            text.append((char) bakery.outputByte(i));
+        int next = bakery.outputByte(0);
+        while (next != PennyBakery.NONE) {
+            text.append((char) next);
+            next = bakery.outputByte(text.length());
         }
         return text.toString();
     }
 
-    /** All that the calls without parameters and the getters tell of the state, in one text. */
+    /**
+     * All that the calls without parameters and the getters tell of the state, in one text: some 115 calls on
+     * a new object. Each call is made once, because an object is promised to answer 512 of them and no more.
+     */
     static String stateOf(PennyBakery b) {
+        return goodsOf(b) + batchesOf(b);
+    }
+
+    /** The state but for the single batches. */
+    static String goodsOf(PennyBakery b) {
         StringBuilder text = new StringBuilder();
+        int flours = b.flourCount();
+        int breads = b.breadCount();
+        int ovens = b.ovenCount();
+        add(text, "counts", flours, breads, ovens);
         add(text, "money", b.clock(), b.cash(), b.income(), b.spentOnFlour(), b.spentOnOvens(), b.flourValue(), b.loafValue());
         add(text, "gaps", b.totalLoss(), b.worstBatch(), b.worstKind(), b.consistencyError());
         add(text, "kinds", b.gapSum(0), b.gapSum(1), b.gapSum(2), b.gapSum(3), b.gapSum(4), b.gapSum(5));
         text.append(" mean ").append(b.meanLoss()).append(" burnt ").append(b.burntShare()).append('\n');
-        for (int flour = 0; flour < b.flourCount(); flour++) {
-            add(text, "flour", b.flourPrice(flour), b.unitsOf(flour), b.priceGap(flour), b.useGap(flour));
-            for (int lot = 0; lot < b.lotsOf(flour); lot++) {
+        for (int flour = 0; flour < flours; flour++) {
+            int lots = b.lotsOf(flour);
+            add(text, "flour", b.flourPrice(flour), b.unitsOf(flour), lots, b.priceGap(flour), b.useGap(flour));
+            for (int lot = 0; lot < lots; lot++) {
                 add(text, "lot", b.lotUnits(flour, lot), b.lotPrice(flour, lot));
             }
         }
-        for (int bread = 0; bread < b.breadCount(); bread++) {
+        for (int bread = 0; bread < breads; bread++) {
             add(text, "bread", b.listPrice(bread), b.minutesOf(bread), b.standardCost(bread), b.loavesOf(bread),
                     b.possibleLoaves(bread), b.bestWait(bread, 1), b.bestWait(bread, 20));
-            for (int flour = 0; flour < b.flourCount(); flour++) {
+            for (int flour = 0; flour < flours; flour++) {
                 add(text, "amount", b.amountOf(bread, flour));
             }
         }
-        add(text, "ovens", b.ovenCount(), b.nextOven(), b.standardRate());
-        for (int oven = 0; oven < b.ovenCount(); oven++) {
+        add(text, "ovens", b.nextOven(), b.standardRate());
+        for (int oven = 0; oven < ovens; oven++) {
             add(text, "oven", b.freeAt(oven));
         }
         for (int hour = 0; hour < 24; hour++) {
             add(text, "rate", b.rateAt(hour));
         }
-        for (int batch = 0; batch < b.batchCount(); batch++) {
-            add(text, "batch", b.batchBread(batch), b.goodLoaves(batch), b.startOf(batch), b.ovenMinutes(batch),
-                    b.costOf(batch), b.lossOf(batch), b.gapOf(batch, 0), b.gapOf(batch, 1), b.gapOf(batch, 2),
-                    b.gapOf(batch, 3), b.gapOf(batch, 4));
+        return text.toString();
+    }
+
+    /** What the single batches tell. */
+    static String batchesOf(PennyBakery b) {
+        StringBuilder text = new StringBuilder();
+        int batches = b.batchCount();
+        add(text, "batches", batches);
+        for (int batch = 0; batch < batches; batch++) {
+            add(text, "batch", b.batchBread(batch), b.goodLoaves(batch), b.startOf(batch), b.ovenMinutes(batch), b.costOf(batch),
+                    b.lossOf(batch), b.gapOf(batch, 0), b.gapOf(batch, 1), b.gapOf(batch, 2), b.gapOf(batch, 3), b.gapOf(batch, 4));
         }
         return text.toString();
     }

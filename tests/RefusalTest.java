@@ -28,7 +28,7 @@ final class RefusalTest {
     private RefusalTest(String name, Supplier<PennyBakery> scene) {
         this.name = name;
         this.scene = scene;
-        this.due = Scene.all(scene.get());
+        this.due = Scene.all(scene);
     }
 
     public static void main(String[] args) {
@@ -49,11 +49,14 @@ final class RefusalTest {
     }
 
     private void refused(String what, Class<? extends RuntimeException> exception, Call call) {
-        PennyBakery b = scene.get();
         String title = name + ": " + what;
-        CHECK.fails(title, exception, () -> call.on(b));
-        CHECK.fails(title + " again", exception, () -> call.on(b));
-        CHECK.isText(title + " changes nothing", due, Scene.all(b));
+        String got = Scene.all(() -> {
+            PennyBakery b = scene.get();
+            CHECK.fails(title, exception, () -> call.on(b));
+            CHECK.fails(title + " again", exception, () -> call.on(b));
+            return b;
+        });
+        CHECK.isText(title + " changes nothing", due, got);
     }
 
     /** "if there is no such flour", "bread", "oven", "batch"; "if hour is out of range", "if kind is out of range" */

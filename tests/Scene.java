@@ -1,4 +1,5 @@
 import java.util.NoSuchElementException;
+import java.util.function.Supplier;
 
 /**
  * Bakeries with something in all their corners, and texts that tell all that a bakery keeps: what can be
@@ -50,20 +51,31 @@ final class Scene {
         return b;
     }
 
-    /** All that the bakery keeps. It is used up by being read. */
-    static String all(PennyBakery b) {
+    /**
+     * All that a bakery keeps. An object is promised to answer 512 calls and no more, so several are made alike
+     * and each tells a part.
+     */
+    static String all(Supplier<PennyBakery> made) {
+        return texts(made.get()) + kept(made);
+    }
+
+    /** All but the input buffer and the reported error. */
+    static String kept(Supplier<PennyBakery> made) {
+        return Check.goodsOf(made.get()) + Check.batchesOf(made.get()) + former(made.get());
+    }
+
+    /** The input buffer and the reported error. */
+    private static String texts(PennyBakery b) {
         StringBuilder text = new StringBuilder("error ").append(b.errorCode()).append(" at ").append(b.errorPosition());
-        text.append(" input ").append(b.feed(0, 0, 0, 0, 0)).append('\n');
-        text.append(kept(b));
+        text.append(" input ").append(b.feed(0, 0, 0, 0, 0));
         b.feed(';' << 24, 0, 0, 0, 0);
-        text.append("script ").append(b.runScript()).append(" clock ").append(b.clock());
+        text.append(" script ").append(b.runScript()).append(" clock ").append(b.clock()).append('\n');
         return text.toString();
     }
 
-    /** All but the input buffer and the reported error. It is used up by being read. */
-    static String kept(PennyBakery b) {
-        StringBuilder text = new StringBuilder(Check.stateOf(b));
-        text.append("output ").append(Check.output(b)).append('\n');
+    /** The output buffer, the changes that can be undone, and the saved states. */
+    private static String former(PennyBakery b) {
+        StringBuilder text = new StringBuilder("output ").append(Check.output(b)).append('\n');
         for (int left = b.undoCount(); left > 0; left--) {
             text.append("undo ").append(b.undo()).append(brief(b));
         }

@@ -231,8 +231,9 @@ final class TextEdgesTest {
         good(b, "rate " + "0".repeat(600) + " 0000;", 1);
         for (int bits = 8; bits <= 200; bits++) {
             String wrapped = java.math.BigInteger.ONE.shiftLeft(bits).add(java.math.BigInteger.ONE).toString();
-            bad(b, "rate 0 " + wrapped + ";", 2, 7);
-            bad(b, "bread 1 1 " + (bits < 20 ? "1000000" : wrapped) + ";", 2, 10);
+            PennyBakery other = Check.bakery(STOCKED);
+            bad(other, "rate 0 " + wrapped + ";", 2, 7);
+            bad(other, "bread 1 1 " + (bits < 20 ? "1000000" : wrapped) + ";", 2, 10);
         }
         setup(b, "bakery " + "9".repeat(690) + " 1;", 2, 7);
         loaded(b, "bakery 0" + "0".repeat(600) + "99999 00020 003;", 0);
@@ -631,11 +632,16 @@ final class TextEdgesTest {
             "bakery 5 5 3;wait 5;flour 9;bread 9 9 9;" + "wait 1;".repeat(38)};
         int[] codes = {1, 1, 2, 3, 4};
         for (int i = 0; i < texts.length; i++) {
-            PennyBakery b = Scene.busy();
-            b.loadSetup();
-            Check.load(b, texts[i]);
-            CHECK.is("code of " + texts[i], codes[i], b.errorCode());
-            CHECK.isText("nothing changes by " + texts[i], Scene.kept(Scene.busy()), Scene.kept(b));
+            String text = texts[i];
+            int code = codes[i];
+            String got = Scene.kept(() -> {
+                PennyBakery b = Scene.busy();
+                b.loadSetup();
+                Check.load(b, text);
+                CHECK.is("code of " + text, code, b.errorCode());
+                return b;
+            });
+            CHECK.isText("nothing changes by " + text, Scene.kept(Scene::busy), got);
         }
     }
 
@@ -644,11 +650,16 @@ final class TextEdgesTest {
         String all = "flour 9;bread 9 9 1;buy 0 1 1;rate 0 9;rate 1 9;bake 0 1 burnt 1;sell 0 1 9;wait 9;";
         String[] texts = {all + "x", all + "wait 0;", all + "buy 0 99 99;", all + "wait 1;".repeat(33)};
         for (int i = 0; i < texts.length; i++) {
-            PennyBakery b = Scene.busy();
-            b.runScript();
-            Check.run(b, texts[i]);
-            CHECK.is("code of " + texts[i], i + 1, b.errorCode());
-            CHECK.isText("nothing changes by " + texts[i], Scene.kept(Scene.busy()), Scene.kept(b));
+            String text = texts[i];
+            int code = i + 1;
+            String got = Scene.kept(() -> {
+                PennyBakery b = Scene.busy();
+                b.runScript();
+                Check.run(b, text);
+                CHECK.is("code of " + text, code, b.errorCode());
+                return b;
+            });
+            CHECK.isText("nothing changes by " + text, Scene.kept(Scene::busy), got);
         }
         PennyBakery good = Scene.busy();
         good.runScript();
@@ -688,12 +699,15 @@ final class TextEdgesTest {
                 + "rate 0 7;bake 0 4 burnt 1 more 2 late 3;bake 1 5 less 2;bake 2 2 early 1;sell 1 2 80;sell 2 1 90;wait 99;";
         String plain = "bakery 700 5 2;flour 10;flour 20;flour 30;bread 98 4 40;bread 91 1 500;bread 71 1 7;";
         String stocked = plain + "buy 0 9 9;buy 1 9 19;buy 2 9 29;bake 0 1 more 1;bake 1 1 less 1;bake 2 1 more 1;";
-        PennyBakery b = new PennyBakery();
-        for (int round = 0; round < 2; round++) {
-            for (String text : new String[] {rich, plain, rich, stocked, plain, stocked}) {
+        String[] texts = {rich, plain, rich, stocked, plain, stocked};
+        for (int last = 0; last < 2 * texts.length; last++) {
+            PennyBakery b = new PennyBakery();
+            String text = "";
+            for (int i = 0; i <= last; i++) {
+                text = texts[i % texts.length];
                 loaded(b, text, text.equals(plain) ? 0 : 3);
-                CHECK.isText("as a new bakery", Check.stateOf(Check.bakery(text)), Check.stateOf(b));
             }
+            CHECK.isText("as a new bakery", Check.stateOf(Check.bakery(text)), Check.stateOf(b));
         }
     }
 

@@ -4,6 +4,11 @@ import java.util.NoSuchElementException;
 final class UndoAndOutputTest {
     private static final Check CHECK = new Check("UndoAndOutputTest");
 
+    /** A change of a bakery. */
+    private interface Change {
+        void on(PennyBakery b);
+    }
+
     public static void main(String[] args) {
         promise61();
         undoOfEachChange();
@@ -16,50 +21,52 @@ final class UndoAndOutputTest {
     }
 
     private static void promise61() {
-        PennyBakery b = new PennyBakery();
-        CHECK.noState("nothing to undo", b::undo);
-        String[] states = new String[12];
-        for (int i = 0; i < 12; i++) {
-            states[i] = Check.stateOf(b);
-            b.waitMinutes(i + 1);
+        CHECK.noState("nothing to undo", () -> new PennyBakery().undo());
+        for (int undone = 0; undone <= 8; undone++) {
+            PennyBakery b = waited(12);
+            for (int i = 1; i <= undone; i++) {
+                CHECK.is("left", 8 - i, b.undo());
+            }
+            CHECK.isText("state", Check.stateOf(waited(12 - undone)), Check.stateOf(b));
         }
-        for (int left = 7; left >= 0; left--) {
-            CHECK.is("left", left, b.undo());
-            CHECK.isText("state", states[left + 4], Check.stateOf(b));
+        PennyBakery b = waited(12);
+        for (int i = 0; i < 8; i++) {
+            b.undo();
         }
         CHECK.noState("the oldest changes cannot be undone", b::undo);
-        CHECK.isText("nothing changes", states[4], Check.stateOf(b));
+        String before = Check.stateOf(waited(4));
+        CHECK.isText("nothing changes", before, Check.stateOf(b));
         b.waitMinutes(20);
         b.waitMinutes(30);
         CHECK.is("left", 1, b.undo());
         b.waitMinutes(40);
         CHECK.is("left", 1, b.undo());
         CHECK.is("left", 0, b.undo());
-        CHECK.isText("state", states[4], Check.stateOf(b));
+        CHECK.isText("state", before, Check.stateOf(b));
         CHECK.noState("nothing to undo", b::undo);
     }
 
-    private static void undoOfEachChange() {
+    /** A new bakery that waited 1 minute, 2 minutes and so on. */
+    private static PennyBakery waited(int times) {
         PennyBakery b = new PennyBakery();
-        String before = Check.stateOf(b);
-        b.addFlour(9);
-        undone(b, "addFlour", before);
-        b.addBread(9, 9, 99);
-        undone(b, "addBread", before);
-        b.buy(0, 9, 9);
-        undone(b, "buy", before);
-        b.setRate(5, 9);
-        undone(b, "setRate", before);
-        b.bake(1, 5, 2, 3, 4);
-        undone(b, "bake", before);
-        b.bake(0, 8, 0, 0, 0);
-        undone(b, "bake with all units", before);
-        b.sell(1, 2, 9);
-        undone(b, "sell", before);
-        b.waitMinutes(9);
-        undone(b, "waitMinutes", before);
-        Check.run(b, "flour 1;flour 2;bread 1 1 1111;buy 3 4 5;rate 0 0;bake 0 2 late 4;sell 0 3 3;wait 77;");
-        undone(b, "runScript", before);
+        for (int i = 1; i <= times; i++) {
+            b.waitMinutes(i);
+        }
+        return b;
+    }
+
+    private static void undoOfEachChange() {
+        undone("addFlour", b -> b.addFlour(9));
+        undone("addBread", b -> b.addBread(9, 9, 99));
+        undone("buy", b -> b.buy(0, 9, 9));
+        undone("setRate", b -> b.setRate(5, 9));
+        undone("bake", b -> b.bake(1, 5, 2, 3, 4));
+        undone("bake with all units", b -> b.bake(0, 8, 0, 0, 0));
+        undone("sell", b -> b.sell(1, 2, 9));
+        undone("waitMinutes", b -> b.waitMinutes(9));
+        undone("runScript", b -> Check.run(b,
+                "flour 1;flour 2;bread 1 1 1111;buy 3 4 5;rate 0 0;bake 0 2 late 4;sell 0 3 3;wait 77;"));
+        PennyBakery b = new PennyBakery();
         b.writeBatch(1);
         b.bake(0, 1, 0, 0, 0);
         Check.feed(b, "wait 5;");
@@ -68,10 +75,13 @@ final class UndoAndOutputTest {
         CHECK.is("undo leaves the input", 7, b.feed(0, 0, 0, 0, 0));
     }
 
-    private static void undone(PennyBakery b, String change, String before) {
-        CHECK.is(change + " is a change", 1, b.undoCount());
-        CHECK.is(change + " can be undone", 0, b.undo());
-        CHECK.isText(change + " undone", before, Check.stateOf(b));
+    private static void undone(String name, Change change) {
+        PennyBakery b = new PennyBakery();
+        String before = Check.stateOf(b);
+        change.on(b);
+        CHECK.is(name + " is a change", 1, b.undoCount());
+        CHECK.is(name + " can be undone", 0, b.undo());
+        CHECK.isText(name + " undone", before, Check.stateOf(b));
     }
 
     private static void promise62() {
@@ -129,19 +139,29 @@ final class UndoAndOutputTest {
     }
 
     private static void restoreBringsBackAll() {
+        PennyBakery before = someBatches();
+        PennyBakery after = someBatches();
+        someChanges(after);
+        PennyBakery b = someBatches();
+        b.save(0);
+        someChanges(b);
+        b.save(1);
+        b.restore(0);
+        CHECK.isText("before", Check.stateOf(before), Check.stateOf(b));
+        b.restore(1);
+        CHECK.isText("after", Check.stateOf(after), Check.stateOf(b));
+    }
+
+    private static PennyBakery someBatches() {
         PennyBakery b = Check.bakery("bakery 5000 2 3;flour 10;flour 20;bread 90 3 21;buy 0 50 11;buy 1 50 19;");
         Check.run(b, "bake 0 4 burnt 1 more 2 late 3;rate 0 7;wait 3;bake 0 3;sell 0 2 80;");
-        String before = Check.stateOf(b);
-        b.save(0);
+        return b;
+    }
+
+    private static void someChanges(PennyBakery b) {
         Check.run(b, "flour 1;flour 2;flour 3;flour 4;bread 2 2 999999;bread 3 3 111111;rate 5 5;rate 23 1;"
                 + "buy 0 9 9;buy 1 9 9;buy 2 9 9;bake 0 9 burnt 9 less 9 early 9;bake 0 1;bake 0 1;wait 999;sell 0 3 1;");
         CHECK.is("the script was good", 0, b.errorCode());
-        b.save(1);
-        String after = Check.stateOf(b);
-        b.restore(0);
-        CHECK.isText("before", before, Check.stateOf(b));
-        b.restore(1);
-        CHECK.isText("after", after, Check.stateOf(b));
     }
 
     private static void promise64() {
