@@ -1,6 +1,5 @@
 import java.io.ByteArrayOutputStream;
 import java.io.File;
-import java.io.IOException;
 import java.io.PrintStream;
 import java.lang.reflect.Method;
 import java.lang.reflect.Modifier;
@@ -77,7 +76,7 @@ final class ReadmeTest {
     }
 
     private static List<String> printed(String program) throws Exception {
-        Path place = Files.createTempDirectory("readme");
+        Path place = Files.createDirectories(Path.of("build", "readme"));
         Path source = place.resolve("Readme.java");
         Files.writeString(source, program);
         int failed = ToolProvider.getSystemJavaCompiler().run(null, null, null,
@@ -90,16 +89,8 @@ final class ReadmeTest {
             Class.forName("Readme", true, loader).getMethod("main", String[].class).invoke(null, (Object) new String[0]);
         } finally {
             System.setOut(screen);
-            remove(place);
         }
         return List.of(bytes.toString().split(System.lineSeparator()));
-    }
-
-    private static void remove(Path place) throws IOException {
-        for (File file : place.toFile().listFiles()) {
-            Files.delete(file.toPath());
-        }
-        Files.delete(place);
     }
 
     private static void names(String page) {
